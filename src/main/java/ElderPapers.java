@@ -635,11 +635,12 @@ public final class ElderPapers {
 
         /** The number of a new row, all 0; NONE if the table is full. */
         int add() {
-            if (isFull()) return NONE;
+            if (count < 0 || count >= most) return NONE;
             int row = count;
             count++;
-            for (int column = 0; column < width; column++) {
-                set(row, column, 0);
+            // A row that was here ahead of again() or clear() may have left its numbers.
+            for (int place = row * width; place < count * width && place < cells.length; place++) {
+                cells[place] = 0;
             }
             return row;
         }
@@ -1025,7 +1026,6 @@ public final class ElderPapers {
             clauses.clear();
             steps.clear();
             waiting.clear();
-            first = 0;
             behind = 0;
             open = 0;
             sign = 0;

@@ -157,9 +157,10 @@ public final class PromiseTests {
         due("another one's", x.paper(1, ONCE, 1, 1, 1, 0), 7);
         for (int p = 2; p < 6; p++) x.person(0, 0, 0);
         for (int i = 8; i < 30; i++) due("paper", x.paper(i / 6 + (i < 12 ? 0 : 1), ONCE, 1, 1, 1, 0), i);
-        due("the thirty first", x.paper(5, ONCE, 1, 1, 1, 0), FULL);
+        due("the thirty first", x.paper(2, ONCE, 1, 1, 1, 0), FULL);
+        due("bad ahead of that", x.paper(2, ONCE, 161, 1, 1, 0), BAD);
         due("thirty", x.many(1), 30);
-        due("five of the last", x.personOf(5, 4), 6);
+        due("none of that one", x.personOf(2, 4), 0);
     }
 
     private static void paperOf() {
@@ -233,10 +234,35 @@ public final class PromiseTests {
             boolean is = year == 55 || year == 105 || year == 115;
             due("copy of 155 year " + year, x.span(another, year), is ? 1 : 0);
         }
+        x.correct(another, 100);
+        for (int year = 0; year <= 160; year++) {
+            boolean is = year == 0 || year >= 100 && year <= 110 || year == 120;
+            due("copy of 100 year " + year, x.span(another, year), is && year <= 118 ? 1 : 0);
+        }
+        x.correct(another, 99);
+        for (int year = 0; year <= 160; year++) {
+            boolean is = year >= 90 && year <= 99 || year < 100 && year % 10 == 9;
+            due("copy of 99 year " + year, x.span(another, year), is ? 1 : 0);
+        }
+        int far = x.paper(3, COPY, 160, 0, 0, 0);
+        for (int tells = 0; tells <= 160; tells++) {
+            x.correct(far, tells);
+            for (int year = 0; year <= 160; year++) {
+                due("copy of " + tells + " year " + year, x.span(far, year), placesApart(tells, year) <= 1 ? 1 : 0);
+            }
+        }
         due("year below", x.span(0, -1), BAD);
         due("year above", x.span(0, 161), BAD);
         due("paper below", x.span(-1, 0), BAD);
         due("paper above", x.span(99, 0), BAD);
+    }
+
+    private static int placesApart(int a, int b) {
+        String first = String.format("%03d", a);
+        String second = String.format("%03d", b);
+        int apart = 0;
+        for (int i = 0; i < 3; i++) if (first.charAt(i) != second.charAt(i)) apart++;
+        return apart;
     }
 
     private static void putLife(int sheet, int... numbers) {
@@ -247,7 +273,6 @@ public final class PromiseTests {
     private static void life() {
         begin("8");
         x.person(0, 0, 0);
-        x.paper(0, GAIN, 0, 0, 0, 0);
         due("sheet below", x.life(-1), BAD);
         due("sheet above", x.life(4), BAD);
         due("missing", x.life(0), -11);
@@ -272,9 +297,13 @@ public final class PromiseTests {
         x.paper(0, ONCE, 160, 0, 50, 0);
         for (int year = 0; year <= 160; year++) {
             int row = (160 - year) / 10;
-            int gain = year == 0 ? 100 : 0;
-            due("weight " + year, x.weight(0, year), (row == 16 ? 100 : row + 1) * gain * 50L);
+            due("weight " + year, x.weight(0, year), (row == 16 ? 100 : row + 1) * 50);
         }
+        x.put(1, 0, 78);
+        x.sheet(1, 1, 17);
+        due("its own numbers", x.weight(0, 160), 50);
+        due("all 0", x.life(1), 1);
+        due("no weight", x.all(0), 0);
     }
 
     private static void weightAllBest() {
@@ -347,6 +376,18 @@ public final class PromiseTests {
         due("what above", x.share(0, 0, 2), BAD);
         due("person below", x.share(-1, 0, 0), BAD);
         due("person above", x.share(1, 0, 0), BAD);
+        x.person(0, 0, 0);
+        x.paper(1, ONCE, 3, 2, 49, 0);
+        due("in lowest terms already", x.share(1, 1, 0), 149);
+        due("and below", x.share(1, 1, 1), 198);
+        putLife(0, 1, 1, 1, 1, 1, 1, 1, 1, 1, 1, 1, 1, 1, 1, 1, 1, 1);
+        x.life(0);
+        due("as it is", x.share(1, 1, 0), 149);
+        due("as it is, below", x.share(1, 1, 1), 198);
+        x.person(0, 0, 0);
+        due("all is 1", x.share(2, 0, 0), 1);
+        due("all is 1, none", x.share(2, 1, 0), 0);
+        due("best of 1", x.best(2), 0);
         x.paper(0, ONCE, 50, 51, 0, 0);
         due("all is 0", x.share(0, 50, 0), NONE);
         due("all is 0, below", x.share(0, 50, 1), NONE);
@@ -420,8 +461,18 @@ public final class PromiseTests {
         due("all agree", x.cut(4), 0);
         x.paper(4, LATE, 63, 13, 0, 0);
         due("the least of several", x.cut(4), 1);
+        x.paper(5, ONCE, 160, 160, 0, 0);
+        due("the last year", x.cut(5), 0);
+        x.paper(5, ONCE, 150, 0, 0, 0);
+        due("the first year", x.cut(5), 1);
         due("person below", x.cut(-1), BAD);
         due("person above", x.cut(6), BAD);
+        begin("15: the first paper");
+        x.person(0, 0, 0);
+        x.paper(0, ONCE, 10, 5, 0, 0);
+        x.paper(0, ONCE, 30, 15, 0, 0);
+        x.paper(0, ONCE, 20, 15, 0, 0);
+        due("it is alone", x.cut(0), 1);
     }
 
     private static void rest() {
@@ -550,7 +601,10 @@ public final class PromiseTests {
             {"take turn 1=1;", -105}, {"turn papers = stands;take seen>house;", 2}, {"take age<seen<3;", -113},
             {"take 1<=2;", -107}, {"take 1=1,", -108}, {"take {1=1;", -105}, {"take 1:1;", -106}, {"take /=1;", -105},
             {"take `=1;", -105}, {"take 1=1;take", -113}, {"take 1=1 take 1=1;", -109}, {"and 1=1;", -100}, {";", -100},
-            {"1=1;", -100}, {"take paper=1;", -105}, {"take paperss=1;", -105}, {"take 1<2 nor 1<2;", -109}};
+            {"1=1;", -100}, {"take paper=1;", -105}, {"fake 1=1;", -100}, {"take take 5=1;", -105},
+            {"take 1=1 turn 1=1;", -109}, {"or 1=1;", -100}, {"share 5=1;", -100}, {"take 1;1;", -106}, {"take 1=1>", -108},
+            {"take 1=1 take;", -109}, {"take not take 1=1;", -109}, {"take 1 and 1=1;", -107}, {"take (;", -106},
+            {"take 1=1 orz", -109}, {"take 1=1orz", -108}, {"take 1=1 ora", -109}, {"take 9=0;", 1}, {"take paperss=1;", -105}, {"take 1<2 nor 1<2;", -109}};
         for (Object[] t : texts) {
             due("<" + t[0] + ">", read((String) t[0]), (Integer) t[1]);
             due("used up", x.many(8), 0);
@@ -572,6 +626,16 @@ public final class PromiseTests {
         due("and judges", x.takes(0), 1);
         due("an empty one", read(" "), 0);
         due("takes none", x.takes(0), 0);
+        due("a fault behind much", read("take not not 1=1 or (not 1=2 and ;"), -133);
+        due("it leaves nothing for the next", read("take 1=2;"), 1);
+        due("a not left alone", read("take not"), -108);
+        due("that leaves nothing either", read("take 1=2;"), 1);
+        due("so it holds not", x.takes(0), 0);
+        due("another fault", read("take 1=2; take not ("), -120);
+        due("nothing of its clauses", read("take 1=1;"), 1);
+        due("so it holds", x.clause(0), 0);
+        due("a fault behind a sign", read("take 1="), -107);
+        due("the sign is gone", read("take 1=1;"), 1);
     }
 
     /** Whether the condition holds for person 0. */
@@ -595,6 +659,13 @@ public final class PromiseTests {
         for (String zero : new String[] {"papers", "stands", "age", "seen", "wrong"}) valueIs(zero, 0);
         valueIs("share 0", 100);
         valueIs("share 1", 0);
+        valueIs("share 999", 0);
+        for (String number : new String[] {"999=999", "999>998", "998<999", "000=0", "010=10", "999>papers"}) {
+            due(number, holds(number) ? 1 : 0, 1);
+        }
+        putLife(0, 1, 1, 1, 1, 1, 1, 1, 1, 1, 1, 1, 1, 1, 1, 1, 1, 1);
+        x.life(0);
+        valueIs("share 0", 100);
         x.paper(0, ONCE, 50, 10, 10, 0);
         x.paper(0, COPY, 60, 12, 20, 0);
         x.paper(0, COUNT, 55, 40, 40, 0);
@@ -612,6 +683,9 @@ public final class PromiseTests {
         x.paper(0, LATE, 60, 40, 80, 0);
         x.paper(0, SPOKEN, 60, 8, 60, 0);
         valueIs("wrong", 2);
+        x.correct(0, 70);
+        due("the best by others", x.best(0), 10);
+        valueIs("wrong", 3);
         x.paper(0, ONCE, 10, 20, 0, 0);
         due("no best", x.best(0), NONE);
         valueIs("age", 0);
@@ -731,6 +805,8 @@ public final class PromiseTests {
         due("below", x.suspect(-1), NONE);
         due("far", x.suspect(MAX), NONE);
         due("far below", x.suspect(MIN), NONE);
+        x.draw(0, 7, 7, 1);
+        due("by one penny", x.suspect(3), 0);
         for (int p = 5; p < 10; p++) x.person(0, 0, 0);
         for (int p = 0; p < 10; p++) x.draw(p, 100, 100, 99 - p);
         due("the tenth", x.suspect(9), 9);
@@ -742,7 +818,9 @@ public final class PromiseTests {
         due("without", x.heap(3), 0);
         x.person(0, 0, 0);
         x.person(0, 0, 0);
-        for (int age : new int[] {40, 50, 65, 61, 0}) x.paper(0, COUNT, 100, age, 10, 0);
+        x.paper(0, COUNT, 100, 40, 10, 0);
+        due("one", x.heap(3), 500);
+        for (int age : new int[] {50, 65, 61, 0}) x.paper(0, COUNT, 100, age, 10, 0);
         x.paper(0, PASSED, 100, 50, 10, 0);
         x.paper(1, COUNT, 100, 99, 10, 0);
         x.paper(1, GAIN, 100, 55, 10, 0);
@@ -772,6 +850,10 @@ public final class PromiseTests {
             due("another house", x.valley(5, 100, what), 1);
             due("no one", x.valley(0, 0, what), 0);
         }
+        x.person(1, 0, 0);
+        putLife(0, 1, 1, 1, 1, 1, 1, 1, 1, 1, 1, 1, 1, 1, 1, 1, 1, 1);
+        x.life(0);
+        for (int what = 0; what < 3; what++) due("weighs 1 in all", x.valley(1, 0, what), 1);
         int[][] bad = {{-1, 0, 0}, {6, 0, 0}, {0, -1, 0}, {0, 161, 0}, {0, 0, -1}, {0, 0, 3}};
         for (int[] b : bad) due("bad", x.valley(b[0], b[1], b[2]), BAD);
     }
@@ -920,6 +1002,7 @@ public final class PromiseTests {
         due("more rows than papers", x.judge(), 2);
         x.prove(2);
         due("the first alone", x.judge(), 0);
+        for (int v : new int[] {3, -1, 99}) judgeAltered(0, 0, v, 1);
     }
 
     private static void sheet() {
@@ -1157,6 +1240,10 @@ public final class PromiseTests {
         due("cut", x.act(0, 2, -8), -2);
         x.shelf(0, 0, 4);
         due("wraps ahead of parting", x.act(0, 2, MAX), MIN / 20);
+        due("one more ahead of parting", x.act(0, 2, 98), 4);
+        x.shelf(0, 0, 5);
+        x.correct(5, 7);
+        due("fits is added", x.act(0, 3, 5), -37);
     }
 
     private static void keepAndAgain() {
@@ -1216,7 +1303,7 @@ public final class PromiseTests {
         x.question(0, 21, 5);
         putLife(0, 9, 9, 9, 9, 9, 9, 9, 9, 9, 9, 9, 9, 9, 9, 9, 9, 9);
         x.life(0);
-        read("turn 1=1; take 1=1;");
+        read("turn 1=2; turn 1=1;");
     }
 
     private static int[] told() {
