@@ -638,7 +638,7 @@ public final class ElderPapers {
             if (count < 0 || count >= most) return NONE;
             int row = count;
             count++;
-            // A row that was here ahead of again() or clear() may have left its numbers.
+            // A row that was here ahead of clear() has left its numbers.
             for (int place = row * width; place < count * width && place < cells.length; place++) {
                 cells[place] = 0;
             }
