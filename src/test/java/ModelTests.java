@@ -1,17 +1,17 @@
 import java.util.Random;
 
 /**
- * Long runs of calls, wild ones among them, on an ElderPapers and on the model: all answers must be
+ * Runs of 512 calls, wild ones among them, on an ElderPapers and on the model: all answers must be
  * the same. The seeds are fixed, so a run that fails can be run again.
  */
 public final class ModelTests {
-    private static final int CALLS = 47;
+    private static final int KINDS_OF_STEPS = 47, MOST_CALLS_OF_A_STEP = 30;
     private static final int[] EDGES = {Integer.MIN_VALUE, Integer.MIN_VALUE + 1, -100, -2, -1, 0, 1, 2, 5, 6,
         7, 9, 10, 12, 14, 16, 17, 29, 30, 40, 41, 98, 99, 100, 159, 160, 161, 200, Integer.MAX_VALUE};
 
     private final Random random;
     private final Checks checks;
-    private final ElderPapers real = new ElderPapers();
+    private final Counted real = new Counted();
     private final ElderModel model = new ElderModel();
     private final int wildness;
     private final int birth;
@@ -27,7 +27,7 @@ public final class ModelTests {
 
     public static void main(String[] args) {
         Checks checks = new Checks();
-        for (int seed = 0; seed < 900; seed++) {
+        for (int seed = 0; seed < 1500; seed++) {
             int before = checks.failed();
             new ModelTests(seed, seed % 3 == 0 ? 6 : 30, checks).run();
             if (checks.failed() > before) System.out.println("  .. that was seed " + seed);
@@ -39,7 +39,21 @@ public final class ModelTests {
     private void run() {
         int opening = random.nextInt(12);
         for (int i = 0; i < opening; i++) step(0, i);
-        for (int i = opening; i < 512; i++) step(pick(), i);
+        if (opening >= 10) fill();
+        for (int i = opening; real.calls() <= Counted.MOST - MOST_CALLS_OF_A_STEP; i++) step(pick(), i);
+        for (int i = 0; real.calls() < Counted.MOST; i++) {
+            if (real.calls() % 2 == 0) checks.due("to the last call", real.all(i % 10), model.all(i % 10));
+            else checks.due("to the last call", real.clause(i % 10), model.clause(i % 10));
+        }
+        checks.due("calls", real.calls(), Counted.MOST);
+    }
+
+    // Nearly all there may be: so most of the calls that follow meet what is full.
+    private void fill() {
+        for (int i = 0; i < 45; i++) step(3, i);
+        for (int i = 0; i < 45; i++) step(15, i);
+        for (int i = 0; i < 22; i++) step(25, i);
+        for (int i = 0; i < 9; i++) step(30, i);
     }
 
     // Calls that build come more often than the others, and what ends a run's variety less often.
@@ -51,7 +65,7 @@ public final class ModelTests {
         if (n < 27) return 37;
         if (n < 31) return 38;
         if (n < 34) return 43;
-        return random.nextInt(CALLS);
+        return random.nextInt(KINDS_OF_STEPS);
     }
 
     private boolean isWild() {

@@ -5,12 +5,12 @@ public final class PromiseTests {
     private static final int MIN = Integer.MIN_VALUE, MAX = Integer.MAX_VALUE;
 
     private static final Checks CHECKS = new Checks();
-    private static ElderPapers x;
+    private static Counted x;
     private static String promise;
 
     private static void begin(String what) {
         promise = what;
-        x = new ElderPapers();
+        x = new Counted();
     }
 
     private static void due(String call, long got, long want) {
@@ -196,65 +196,58 @@ public final class PromiseTests {
         due("tells", x.paperOf(0, 3), 160);
     }
 
-    private static void spanIs(String what, int paper, int from, int to) {
+    /** A new object with one paper. */
+    private static void onePaper(int kind, int made, int tells) {
+        x = new Counted();
+        x.person(0, 0, 0);
+        if (kind == COPY) x.paper(0, ONCE, 0, 0, 0, 0);
+        x.paper(0, kind, made, tells, 0, 0);
+    }
+
+    private static void spanIs(String what, int kind, int made, int tells, int from, int to) {
+        onePaper(kind, made, tells);
         for (int year = 0; year <= 160; year++) {
-            due(what + " year " + year, x.span(paper, year), year >= from && year <= to ? 1 : 0);
+            due(what + " year " + year, x.span(0, year), year >= from && year <= to ? 1 : 0);
         }
     }
 
     private static void span() {
         begin("7");
-        for (int p = 0; p < 4; p++) x.person(0, 0, 0);
-        spanIs("once", x.paper(0, ONCE, 60, 50, 0, 0), 50, 50);
-        spanIs("once, the last year", x.paper(0, ONCE, 50, 50, 0, 0), 50, 50);
-        spanIs("once, behind made", x.paper(0, ONCE, 49, 50, 0, 0), 1, 0);
-        spanIs("late", x.paper(0, LATE, 60, 50, 0, 0), 49, 51);
-        spanIs("late, cut", x.paper(0, LATE, 50, 50, 0, 0), 49, 50);
-        spanIs("late of 0", x.paper(0, LATE, 50, 0, 0, 0), 0, 1);
-        spanIs("count of 0", x.paper(1, COUNT, 90, 40, 0, 0), 45, 55);
-        spanIs("count of 5", x.paper(1, COUNT, 90, 45, 0, 0), 43, 47);
-        spanIs("count", x.paper(1, COUNT, 90, 44, 0, 0), 45, 47);
-        spanIs("count of age 0", x.paper(1, COUNT, 90, 0, 0, 0), 85, 90);
-        spanIs("count ahead of 0", x.paper(1, COUNT, 3, 5, 0, 0), 0, 0);
-        spanIs("late, behind 160", x.paper(1, LATE, 160, 160, 0, 0), 159, 160);
-        spanIs("passed", x.paper(2, PASSED, 90, 40, 0, 0), 49, 50);
-        spanIs("passed at 0", x.paper(2, PASSED, 40, 40, 0, 0), 0, 0);
-        spanIs("gain", x.paper(2, GAIN, 90, 40, 0, 0), 0, 50);
-        spanIs("gain of none", x.paper(2, GAIN, 30, 40, 0, 0), 1, 0);
-        spanIs("spoken", x.paper(2, SPOKEN, 90, 40, 0, 0), 0, 35);
-        spanIs("spoken, cut", x.paper(2, SPOKEN, 30, 40, 0, 0), 0, 30);
-        spanIs("spoken of 4", x.paper(3, SPOKEN, 30, 4, 0, 0), 1, 0);
-        int copy = x.paper(3, COPY, 150, 47, 0, 0);
-        for (int year = 0; year <= 160; year++) {
-            boolean is = year / 10 == 4 || year < 100 && year % 10 == 7 || year == 147;
-            due("copy year " + year, x.span(copy, year), is ? 1 : 0);
-        }
-        int another = x.paper(3, COPY, 118, 155, 0, 0);
-        for (int year = 0; year <= 160; year++) {
-            boolean is = year == 55 || year == 105 || year == 115;
-            due("copy of 155 year " + year, x.span(another, year), is ? 1 : 0);
-        }
-        x.correct(another, 100);
-        for (int year = 0; year <= 160; year++) {
-            boolean is = year == 0 || year >= 100 && year <= 110 || year == 120;
-            due("copy of 100 year " + year, x.span(another, year), is && year <= 118 ? 1 : 0);
-        }
-        x.correct(another, 99);
-        for (int year = 0; year <= 160; year++) {
-            boolean is = year >= 90 && year <= 99 || year < 100 && year % 10 == 9;
-            due("copy of 99 year " + year, x.span(another, year), is ? 1 : 0);
-        }
-        int far = x.paper(3, COPY, 160, 0, 0, 0);
-        for (int tells = 0; tells <= 160; tells++) {
-            x.correct(far, tells);
-            for (int year = 0; year <= 160; year++) {
-                due("copy of " + tells + " year " + year, x.span(far, year), placesApart(tells, year) <= 1 ? 1 : 0);
-            }
-        }
+        spanIs("once", ONCE, 60, 50, 50, 50);
+        spanIs("once, the last year", ONCE, 50, 50, 50, 50);
+        spanIs("once, behind made", ONCE, 49, 50, 1, 0);
+        spanIs("late", LATE, 60, 50, 49, 51);
+        spanIs("late, cut", LATE, 50, 50, 49, 50);
+        spanIs("late of 0", LATE, 50, 0, 0, 1);
+        spanIs("count of 0", COUNT, 90, 40, 45, 55);
+        spanIs("count of 5", COUNT, 90, 45, 43, 47);
+        spanIs("count", COUNT, 90, 44, 45, 47);
+        spanIs("count of age 0", COUNT, 90, 0, 85, 90);
+        spanIs("count ahead of 0", COUNT, 3, 5, 0, 0);
+        spanIs("late, behind 160", LATE, 160, 160, 159, 160);
+        spanIs("passed", PASSED, 90, 40, 49, 50);
+        spanIs("passed at 0", PASSED, 40, 40, 0, 0);
+        spanIs("gain", GAIN, 90, 40, 0, 50);
+        spanIs("gain of none", GAIN, 30, 40, 1, 0);
+        spanIs("spoken", SPOKEN, 90, 40, 0, 35);
+        spanIs("spoken, cut", SPOKEN, 30, 40, 0, 30);
+        spanIs("spoken of 4", SPOKEN, 30, 4, 1, 0);
+        spansOfCopies();
         due("year below", x.span(0, -1), BAD);
         due("year above", x.span(0, 161), BAD);
         due("paper below", x.span(-1, 0), BAD);
         due("paper above", x.span(99, 0), BAD);
+    }
+
+    private static void spansOfCopies() {
+        for (int tells = 0; tells <= 160; tells++) {
+            int made = tells % 3 == 0 ? 160 : 118;
+            onePaper(COPY, made, tells);
+            for (int year = 0; year <= 160; year++) {
+                boolean is = year <= made && placesApart(tells, year) <= 1;
+                due("copy of " + tells + " year " + year, x.span(1, year), is ? 1 : 0);
+            }
+        }
     }
 
     private static int placesApart(int a, int b) {
@@ -263,11 +256,6 @@ public final class PromiseTests {
         int apart = 0;
         for (int i = 0; i < 3; i++) if (first.charAt(i) != second.charAt(i)) apart++;
         return apart;
-    }
-
-    private static void putLife(int sheet, int... numbers) {
-        x.sheet(sheet, 1, numbers.length);
-        for (int i = 0; i < numbers.length; i++) x.put(sheet, i, numbers[i]);
     }
 
     private static void life() {
@@ -280,11 +268,11 @@ public final class PromiseTests {
             x.sheet(0, sort, 17);
             due("sort " + sort, x.life(0), sort == 1 ? 1 : -13);
         }
-        putLife(1, 100, 100, 100, 100, 100, 100, 100, 100, 100, 100, 100, 100, 100, 100, 100, 100);
+        x.putShorts(1, 100, 100, 100, 100, 100, 100, 100, 100, 100, 100, 100, 100, 100, 100, 100, 100);
         due("sixteen", x.life(1), STATE);
-        putLife(1, 9, 9, 9, 9, 9, 9, 9, 9, 9, 9, 9, 9, 9, 9, 9, 9, 9, 9);
+        x.putShorts(1, 9, 9, 9, 9, 9, 9, 9, 9, 9, 9, 9, 9, 9, 9, 9, 9, 9, 9);
         due("eighteen", x.life(1), STATE);
-        putLife(1, 1, 2, 3, 4, 5, 6, 7, 8, 9, 10, 11, 12, 13, 14, 15, 16, 100);
+        x.putShorts(1, 1, 2, 3, 4, 5, 6, 7, 8, 9, 10, 11, 12, 13, 14, 15, 16, 100);
         for (int i = 0; i < 17; i++) {
             x.put(1, i, 101);
             due("above a hundred at " + i, x.life(1), STATE);
@@ -380,8 +368,7 @@ public final class PromiseTests {
         x.paper(1, ONCE, 3, 2, 49, 0);
         due("in lowest terms already", x.share(1, 1, 0), 149);
         due("and below", x.share(1, 1, 1), 198);
-        putLife(0, 1, 1, 1, 1, 1, 1, 1, 1, 1, 1, 1, 1, 1, 1, 1, 1, 1);
-        x.life(0);
+        x.lifeOf(1);
         due("as it is", x.share(1, 1, 0), 149);
         due("as it is, below", x.share(1, 1, 1), 198);
         x.person(0, 0, 0);
@@ -543,18 +530,8 @@ public final class PromiseTests {
         due("a long round does not stand", x.stands(), 255 - 3);
     }
 
-    private static void feedText(String text) {
-        for (int i = 0; i < text.length(); i += 8) {
-            int n = Math.min(8, text.length() - i);
-            long eight = 0;
-            for (int k = 0; k < n; k++) eight |= (long) text.charAt(i + k) << (8 * k);
-            x.feed(eight, n);
-        }
-    }
-
     private static int read(String text) {
-        feedText(text);
-        return x.read();
+        return x.readText(text);
     }
 
     private static void feed() {
@@ -646,14 +623,20 @@ public final class PromiseTests {
     }
 
     private static void valueIs(String value, int want) {
-        due(value, holds(value + "=" + want) ? 1 : 0, 1);
-        due(value + " not below", holds(value + "<" + want) ? 1 : 0, 0);
+        int more = want + 1;
+        due(value, holds(value + "=" + want + " and not " + value + "<" + want) ? 1 : 0, 1);
         due(value + " not above", holds(want + "<" + value) ? 1 : 0, 0);
-        due(value + " below", holds(value + "<" + (want + 1)) ? 1 : 0, 1);
-        due(value + " above", holds(want + 1 + ">" + value) ? 1 : 0, 1);
+        due(value + " below", holds(value + "<" + more + " and " + more + ">" + value) ? 1 : 0, 1);
     }
 
     private static void values() {
+        valuesWithoutPapers();
+        valuesOfPapers();
+        valuesWithoutBest();
+        joints();
+    }
+
+    private static void valuesWithoutPapers() {
         begin("22: values");
         x.person(3, 0, 0);
         for (String zero : new String[] {"papers", "stands", "age", "seen", "wrong"}) valueIs(zero, 0);
@@ -663,14 +646,23 @@ public final class PromiseTests {
         for (String number : new String[] {"999=999", "999>998", "998<999", "000=0", "010=10", "999>papers"}) {
             due(number, holds(number) ? 1 : 0, 1);
         }
-        putLife(0, 1, 1, 1, 1, 1, 1, 1, 1, 1, 1, 1, 1, 1, 1, 1, 1, 1);
-        x.life(0);
+        x.lifeOf(1);
         valueIs("share 0", 100);
+    }
+
+    private static void threePapers() {
+        begin("22: values");
+        x.person(3, 0, 0);
+        x.lifeOf(1);
         x.paper(0, ONCE, 50, 10, 10, 0);
         x.paper(0, COPY, 60, 12, 20, 0);
         x.paper(0, COUNT, 55, 40, 40, 0);
         x.person(4, 0, 0);
         x.paper(1, ONCE, 90, 10, 10, 0);
+    }
+
+    private static void valuesOfPapers() {
+        threePapers();
         int[] want = {3, 3, 50, 60, 3, 0, 38, 100, 0, 38};
         String[] words = {"papers", "stands", "age", "seen", "house", "wrong", "share 50", "share 0", "share 161",
             "share 050"};
@@ -680,6 +672,10 @@ public final class PromiseTests {
         valueIs("stands", 0);
         x.rest(2, 3);
         valueIs("stands", 3);
+    }
+
+    private static void valuesWithoutBest() {
+        threePapers();
         x.paper(0, LATE, 60, 40, 80, 0);
         x.paper(0, SPOKEN, 60, 8, 60, 0);
         valueIs("wrong", 2);
@@ -692,10 +688,11 @@ public final class PromiseTests {
         valueIs("wrong", 0);
         valueIs("share 0", 0);
         valueIs("papers", 6);
-        joints();
     }
 
     private static void joints() {
+        begin("22: conditions");
+        x.person(0, 0, 0);
         String[] so = {"1=1", "not 1=2", "not not 1=1", "1=1 or 1=1 and 1=2", "1=2 and 1=1 or 1=1",
             "1=1 or not 1=1", "not 1=2 and 1=1", "not (1=1 and 1=2)", "not (1=2 or 1=2)", "not 1=2 or 1=1",
             "(1=1 or 1=1) and (1=2 or 1=1)", "1=1 and not (1=1 and not 1=1)", "1=2 or 1=2 or 1=1",
@@ -851,8 +848,7 @@ public final class PromiseTests {
             due("no one", x.valley(0, 0, what), 0);
         }
         x.person(1, 0, 0);
-        putLife(0, 1, 1, 1, 1, 1, 1, 1, 1, 1, 1, 1, 1, 1, 1, 1, 1, 1);
-        x.life(0);
+        x.lifeOf(1);
         for (int what = 0; what < 3; what++) due("weighs 1 in all", x.valley(1, 0, what), 1);
         int[][] bad = {{-1, 0, 0}, {6, 0, 0}, {0, -1, 0}, {0, 161, 0}, {0, 0, -1}, {0, 0, 3}};
         for (int[] b : bad) due("bad", x.valley(b[0], b[1], b[2]), BAD);
@@ -1301,8 +1297,7 @@ public final class PromiseTests {
         x.draw(0, 1, 90, 1);
         x.answer(0, true);
         x.question(0, 21, 5);
-        putLife(0, 9, 9, 9, 9, 9, 9, 9, 9, 9, 9, 9, 9, 9, 9, 9, 9, 9);
-        x.life(0);
+        x.lifeOf(9);
         read("turn 1=2; turn 1=1;");
     }
 
