@@ -581,7 +581,8 @@ public final class PromiseTests {
             {"1=1;", -100}, {"take paper=1;", -105}, {"fake 1=1;", -100}, {"take take 5=1;", -105},
             {"take 1=1 turn 1=1;", -109}, {"or 1=1;", -100}, {"share 5=1;", -100}, {"take 1;1;", -106}, {"take 1=1>", -108},
             {"take 1=1 take;", -109}, {"take not take 1=1;", -109}, {"take 1 and 1=1;", -107}, {"take (;", -106},
-            {"take 1=1 orz", -109}, {"take 1=1orz", -108}, {"take 1=1 ora", -109}, {"take 9=0;", 1}, {"take paperss=1;", -105}, {"take 1<2 nor 1<2;", -109}};
+            {"take 1=1 orz", -109}, {"take 1=1orz", -108}, {"take 1=1 ora", -109}, {"take 9=0;", 1},
+            {"take paperss=1;", -105}, {"take 1<2 nor 1<2;", -109}};
         for (Object[] t : texts) {
             due("<" + t[0] + ">", read((String) t[0]), (Integer) t[1]);
             due("used up", x.many(8), 0);

@@ -400,7 +400,7 @@ public final class WayEdgeTests extends Edge {
     }
 
     private void counts() {
-        of("papers: how many it has; stands: how many of these STAND; house: HOUSE; wrong: PAPERS whose SPAN doesn't have BEST");
+        of("papers: how many it has; stands: how many of these STAND; .. wrong: PAPERS whose SPAN doesn't have BEST");
         x.person(0, 0, 0);
         x.person(5, 0, 0);
         for (String value : new String[] {"papers", "stands", "wrong"}) valueIs(value, 0, 0);
@@ -436,7 +436,8 @@ public final class WayEdgeTests extends Edge {
         valueIs("share 0", 0, 100);
         x.paper(0, ONCE, 40, 41, 0, 0);
         due("none", x.best(0), NONE);
-        for (String value : new String[] {"age", "wrong", "share 0", "share 1", "share 40", "share 999"}) valueIs(value, 0, 0);
+        String[] zero = {"age", "wrong", "share 0", "share 1", "share 40", "share 999"};
+        for (String value : zero) valueIs(value, 0, 0);
         valueIs("seen", 0, 40);
         valueIs("papers", 0, 3);
         valueIs("house", 0, 3);
